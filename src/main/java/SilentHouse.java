@@ -57,7 +57,6 @@ public final class SilentHouse {
     private static final int COUGHED = 13;
     private static final int NAMES = 14;
     private static final int LAUGHS = 14;
-    private static final int LOUD = 15;
     private static final int DUES = 16;
     private static final int SEAT = 17;
     private static final int OUT = 18;
@@ -68,11 +67,11 @@ public final class SilentHouse {
     private static final int AND = 23;
     private static final int NOT = 24;
 
-    /** The laws by their number: laughs, loud, dues. */
-    private static final int LAWS = 3;
+    // A law's number is its word's less LAUGHS.
     private static final int LAUGHS_LAW = 0;
     private static final int LOUD_LAW = 1;
     private static final int DUES_LAW = 2;
+    private static final int LAWS = 3;
 
     /** For each law the names that it may use, as bits by their word's number. */
     private static final int[] NAMES_OF_LAW = {0x007F, 0x0398, 0x3C07};
@@ -562,27 +561,19 @@ public final class SilentHouse {
             }
         }
 
-        int token(int i) {
-            return i >= 0 && i < count && i <= BYTES ? tokens[i] : END;
-        }
-
-        int begin(int i) {
-            return i >= 0 && i < count && i <= BYTES ? begins[i] : length;
-        }
-
         void split() {
             count = 0;
             int next = 0;
-            while (next < length && count < BYTES) {
+            for (int i = 0; i < BYTES && next < length; i++) {
                 int first = sign(next);
                 int behind = next + 1;
                 if (!isBlank(first)) {
                     begins[count] = next;
                     if (isLetter(first)) {
-                        behind = behindLetters(next);
+                        behind = behind(next, true);
                         tokens[count] = word(next, behind);
                     } else if (isDigit(first)) {
-                        behind = behindDigits(next);
+                        behind = behind(next, false);
                         tokens[count] = NUMBER + number(next, behind);
                     } else {
                         tokens[count] = signs(first, sign(next + 1));
@@ -592,19 +583,13 @@ public final class SilentHouse {
                 }
                 next = behind;
             }
+            tokens[count] = END;
+            begins[count] = length;
         }
 
-        private int behindLetters(int first) {
+        private int behind(int first, boolean letters) {
             int behind = first + 1;
-            while (behind < length && isLetter(sign(behind))) {
-                behind++;
-            }
-            return behind;
-        }
-
-        private int behindDigits(int first) {
-            int behind = first + 1;
-            while (behind < length && isDigit(sign(behind))) {
+            while (behind < length && (letters ? isLetter(sign(behind)) : isDigit(sign(behind)))) {
                 behind++;
             }
             return behind;
@@ -699,7 +684,7 @@ public final class SilentHouse {
             Arrays.fill(to, 0);
             tokens.split();
             present = 0;
-            token = tokens.token(present);
+            token = tokens.tokens[0];
             for (int i = 0; i <= CLAUSES && token != END; i++) {
                 clause();
             }
@@ -720,20 +705,16 @@ public final class SilentHouse {
                 seats[clauses] = NONE;
                 advance();
                 if (kind <= DUES) {
-                    lawOf(kind - LAUGHS);
+                    law = kind - LAUGHS;
+                    from[law] = size;
+                    chain(law == LAUGHS_LAW ? EITHER : SUM, 0);
+                    to[law] = size;
                 } else {
                     deed(kind);
                 }
                 expect(';');
                 clauses++;
             }
-        }
-
-        private void lawOf(int itsLaw) {
-            law = itsLaw;
-            from[law] = size;
-            chain(law == LAUGHS_LAW ? EITHER : SUM, 0);
-            to[law] = size;
         }
 
         private void deed(int kind) {
@@ -857,16 +838,16 @@ public final class SilentHouse {
         }
 
         private void advance() {
-            if (fault == 0) {
+            if (fault == 0 && present < tokens.count) {
                 present++;
-                token = tokens.token(present);
+                token = tokens.tokens[present];
             }
         }
 
         private void refuse(int what) {
             if (fault == 0) {
                 fault = what;
-                place = tokens.begin(present);
+                place = tokens.begins[present];
             }
             token = END;
         }

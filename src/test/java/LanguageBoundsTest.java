@@ -10,12 +10,15 @@ public final class LanguageBoundsTest {
 
   public static void main(String[] args) {
     texts0To3OfUpTo300Bytes();
+    tokensUpTo300();
+    nothingOfAFaultyTextStays();
     everyByteBehindAWord();
     everyByteBehindANumber();
     lettersAndDigitsOneBehindTheOther();
     theLongest();
     clauses24AtMost();
     clausesAsTheyAreSpelled();
+    clausesWithoutOneToken();
     eitherAndBoth();
     askIsNotOrARelation();
     sumsAndProducts();
@@ -78,6 +81,40 @@ public final class LanguageBoundsTest {
     SilentHouse full = new SilentHouse();
     Tape.put(full, " ".repeat(300));
     s.be("no more than 300 bytes", full.feed(0, 0, 0, 0, 0), NONE);
+  }
+
+  private static void tokensUpTo300() {
+    Sentence s = Sentence.of("II.", "of up to 300 bytes.");
+    String[] signs = {";", "(", "1", "a", "<", "=", "-", "!"};
+    for (String sign : signs) {
+      fault(s, sign.repeat(300), 1, 0);
+    }
+    fault(s, "1;".repeat(150), 1, 0);
+    fault(s, "loud " + "-".repeat(295), 3, 13);
+    fault(s, "loud 1" + "+".repeat(294), 1, 7);
+    good(s, "loud" + "\n".repeat(2) + "1" + "-1".repeat(146) + ";");
+    fault(s, "loud 1" + "-1".repeat(147), 1, 300);
+  }
+
+  private static void nothingOfAFaultyTextStays() {
+    Sentence s = Sentence.of("II.", "of up to 300 bytes.");
+    SilentHouse house = Houses.one();
+    String wrong = "laughs 1 < 2; loud 5; dues 1" + "-1".repeat(120) + "!";
+    for (int i = 0; i < 8; i++) {
+      s.be("a fault", Tape.read(house, wrong), NONE);
+      s.be("at its end", house.fault(1), wrong.length() - 1);
+    }
+    Houses.law(house, "dues 1" + "+1".repeat(100) + ";");
+    house.night();
+    s.be("its own law", house.of(0, 2), 101);
+    s.be("no law of another text", house.wave(0, 0), 0);
+    s.be("no law of another text", house.wave(0, 2), 0);
+    Houses.law(house, "dues 2" + "+1".repeat(100) + ";");
+    house.night();
+    s.be("its own law", house.of(0, 2), 101 + 102);
+    house.by(0);
+    house.night();
+    s.be("the first is as it was", house.of(0, 2), 101 + 102 + 101);
   }
 
   private static boolean isLetter(int sign) {
@@ -227,6 +264,30 @@ public final class LanguageBoundsTest {
     fault(s, "laughs 1;", 1, 8);
   }
 
+  /** Each clause with one of its tokens left out: at the place of the one behind it. */
+  private static void clausesWithoutOneToken() {
+    Sentence s = Sentence.of("II.", "seat NUMBER at NUMBER ; or out NUMBER ; or hire NUMBER ; or night ;.");
+    fault(s, "0 at 0;", 1, 0);
+    fault(s, "seat at 0;", 1, 5);
+    fault(s, "seat 0 0;", 1, 7);
+    fault(s, "seat 0 at ;", 1, 10);
+    fault(s, "seat 0 at 0", 1, 11);
+    fault(s, "seat;", 1, 4);
+    fault(s, "seat 0;", 1, 6);
+    fault(s, "out;", 1, 3);
+    fault(s, "out 0 night;", 1, 6);
+    fault(s, "hire;", 1, 4);
+    fault(s, "hire 0 night;", 1, 7);
+    fault(s, "night night;", 1, 6);
+    fault(s, "loud;", 1, 4);
+    fault(s, "dues;", 1, 4);
+    fault(s, "laughs;", 1, 6);
+    fault(s, "laughs 1 <;", 1, 10);
+    fault(s, "laughs < 1;", 1, 7);
+    fault(s, "laughs 1 1;", 1, 9);
+    fault(s, "loud 1 night;", 1, 7);
+  }
+
   private static void eitherAndBoth() {
     Sentence s = Sentence.of("II.", "EITHER: BOTH {or BOTH}.");
     good(s, "laughs 1<2;");
@@ -365,6 +426,14 @@ public final class LanguageBoundsTest {
     s.be("names in loud", house.night(), 1 + 18 + 8 + 16 + 16 + (2 + 0 + 8 + 16 + 16));
     s.be("names in dues", house.of(0, 2), 9 + 80 + 300 + 400 + 2 - 2);
     s.be("names in dues", house.of(1, 2), 200 + 400 + 2);
+    SilentHouse sorts = Houses.people(1);
+    for (int line = 0; line < 6; line++) {
+      sorts.line(2 - line % 3, line);
+    }
+    Houses.law(sorts, "loud sort * 10 + power;");
+    for (int line = 0; line < 6; line++) {
+      s.be("sort and power in loud", sorts.wave(line, 2), (2 - line % 3) * 10 + line);
+    }
     Houses.law(house, "loud power; dues bill;");
     house.night();
     s.be("the bill", house.of(1, 2), 200 + 400 + 2 + 9);

@@ -9,12 +9,15 @@ public final class ReckoningBoundsTest {
 
   public static void main(String[] args) {
     withoutCoughsAsSeatsAndStillAre();
+    asTheyAreBehindEveryChange();
     asJustThoseOfThemSat();
     causedBelow0Too();
     fairIsTheMeanOverAllOrders();
     fairSharesAddUp();
     fairInLowestTerms();
     quietestOnTheSeatsThatAreTaken();
+    quietestByRowAlone();
+    quietestOfTheLoudest();
     quietestOfLikeOnes();
     cutTheFewest();
     cutOfLikeOnes();
@@ -23,6 +26,7 @@ public final class ReckoningBoundsTest {
     stilledNoneIfNotEvenAllDo();
     seen10AtMost();
     whoSetsOfThoseWhoSit();
+    seenOfTheImage();
     anImageIsAllButTapeAndFault();
     backAllIsSoAgain();
     Sentence.everyOneOf("III.");
@@ -58,6 +62,63 @@ public final class ReckoningBoundsTest {
     house.hire(0, false);
     house.seat(0, NONE);
     s.be("as SEATS are", house.all(63), 0);
+  }
+
+  private static void now(Sentence s, String when, SilentHouse house, int all, int first) {
+    s.be("all " + when, house.all(63), all);
+    s.be("ALL then " + when, house.quietest(NONE), all);
+    s.be("on seat 0 " + when, house.quietest(0), first);
+    s.be("fair of 1 " + when, house.fair(1, 0), house.caused(1));
+    s.be("how many sets " + when, house.who(NONE), all == 0 ? 1 : all * 2);
+  }
+
+  /** What was asked ahead of a change must not be answered behind it. */
+  private static void asTheyAreBehindEveryChange() {
+    Sentence s = Sentence.of("III.", "as SEATS and STILL are.");
+    SilentHouse house = Houses.people(2);
+    house.line(1, 9);
+    now(s, "at first", house, 2, 0);
+    house.hire(0, true);
+    s.be("hired", house.all(63), 1);
+    s.be("hired", house.quietest(NONE), 1);
+    house.undo();
+    now(s, "hired no more", house, 2, 0);
+    house.seat(0, NONE);
+    now(s, "one is out", house, 1, NONE);
+    house.undo();
+    now(s, "taken back", house, 2, 0);
+    Tape.read(house, "out 0;");
+    house.played(0);
+    now(s, "played", house, 1, NONE);
+    house.image();
+    Tape.read(house, "seat 0 at 0;");
+    house.played(1);
+    now(s, "played", house, 2, 0);
+    house.back();
+    now(s, "back", house, 1, NONE);
+    house.line(1, 9);
+    s.be("a line more", house.all(63), 2);
+    s.be("a line more", house.quietest(NONE), 2);
+    Houses.law(house, "loud 5;");
+    s.be("another law", house.all(63), 10);
+    s.be("another law", house.quietest(NONE), 10);
+    s.be("another law", house.wave(1, 2), 5);
+    house.back();
+    now(s, "back from a law", house, 1, NONE);
+    Houses.law(house, "laughs power > shame; loud power;");
+    s.be("of power 9", house.wave(0, 2), 9);
+    house.image();
+    house.line(0, 3);
+    house.person(0, 7, 0);
+    house.seat(2, 9);
+    s.be("who laughs at power 3", house.wave(1, 0), 2);
+    s.be("of power 3", house.wave(1, 2), 3);
+    house.back();
+    house.line(0, 8);
+    house.person(0, 2, 0);
+    house.seat(2, 9);
+    s.be("who laughs at power 8", house.wave(1, 0), 6);
+    s.be("of power 8", house.wave(1, 2), 8);
   }
 
   private static void asJustThoseOfThemSat() {
@@ -239,6 +300,38 @@ public final class ReckoningBoundsTest {
     s.be("the order as it is", still.quietest(1), 1);
   }
 
+  private static void quietestByRowAlone() {
+    Sentence s = Sentence.of("III.", "in the order by which ALL is least");
+    SilentHouse house = new SilentHouse();
+    for (int person = 0; person < 3; person++) {
+      house.person(5, 5, 0);
+      house.seat(person, 4 * person);
+    }
+    house.line(0, 0);
+    Houses.law(house, "laughs row = 0;");
+    s.be("one laughs, whoever it is", house.quietest(NONE), 1);
+    s.be("the lowest", house.quietest(0), 0);
+    house.hire(2, true);
+    s.be("who is still is best in row 0", house.quietest(NONE), 0);
+    int[] due = {2, 0, 1};
+    for (int row = 0; row < 3; row++) {
+      s.be("in row " + row, house.quietest(4 * row), due[row]);
+    }
+  }
+
+  private static void quietestOfTheLoudest() {
+    Sentence s = Sentence.of("III.", "in the order by which ALL is least");
+    String[] laws = {"loud 99;", "laughs near > 9 or row > 9; loud 99;"};
+    for (String law : laws) {
+      SilentHouse house = Houses.tenJokes(3);
+      Houses.law(house, law);
+      s.be("the loudest that can be", house.quietest(NONE), 990);
+      for (int person = 0; person < 3; person++) {
+        s.be("all alike", house.quietest(person), person);
+      }
+    }
+  }
+
   private static void quietestOfLikeOnes() {
     Sentence s = Sentence.of("III.", "of like ones the lowest PERSON for the lowest SEAT first, then for the next, .. .");
     SilentHouse house = new SilentHouse();
@@ -337,6 +430,14 @@ public final class ReckoningBoundsTest {
     house.seat(0, NONE);
     s.be("who doesn't sit needn't be", house.stilled(0), 0);
     s.be("nobody is made still", house.of(1, 1), 0);
+    SilentHouse later = Houses.people(6);
+    later.seat(3, 15);
+    later.seat(4, 8);
+    later.seat(5, 9);
+    later.line(0, 0);
+    Houses.law(later, "laughs wit = 0 or wit = 3 or wit = 4 or near > 0 and wit = 5;");
+    // 0, 3, and 4 with 5: by two it is the set 9, by one, who is 4, the set 16.
+    s.be("fewer ahead of lower", later.stilled(2), 16);
     SilentHouse each = Houses.tenJokes(3);
     each.person(0, 0, 0);
     each.hire(1, true);
@@ -448,6 +549,19 @@ public final class ReckoningBoundsTest {
     s.be("nobody sits, and it was loud", house.who(NONE), 0);
   }
 
+  private static void seenOfTheImage() {
+    Sentence s = Sentence.of("III.", "WHO: SEEN (10 at most; told)");
+    SilentHouse house = Houses.tenJokes(3);
+    house.seen(3);
+    house.image();
+    house.seen(NONE);
+    house.seen(1);
+    s.be("one of three", house.who(NONE), 3);
+    house.back();
+    s.be("all three again", house.who(NONE), 1);
+    s.be("one line", house.about(7), 1);
+  }
+
   private static void anImageIsAllButTapeAndFault() {
     Sentence s = Sentence.of("III.", "AN IMAGE: all as it is, but the tape and the latest FAULT.");
     SilentHouse house = new SilentHouse();
@@ -508,7 +622,7 @@ public final class ReckoningBoundsTest {
     for (int i = 0; i < 11; i++) {
       house.undo();
     }
-    house.seen(1);
+    house.seen(0);
     return house.back();
   }
 }

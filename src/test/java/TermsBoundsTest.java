@@ -6,6 +6,8 @@ public final class TermsBoundsTest {
   }
 
   public static void main(String[] args) {
+    atMost512Calls();
+    noneIsMinus1();
     seats0To15();
     people0To5();
     nearIsOneOff();
@@ -34,6 +36,26 @@ public final class TermsBoundsTest {
     whatWasToldSinceStays();
     Sentence.everyOneOf("Terms");
     Due.end();
+  }
+
+  private static void atMost512Calls() {
+    Sentence s = Sentence.of("What it is", "An object is used for at most 512 calls after it has been made");
+    SilentHouse house = Houses.people(1);
+    for (int call = 3; call < 512; call++) {
+      house.night();
+    }
+    s.be("the 512th call", house.about(2), 509);
+    SilentHouse reads = new SilentHouse();
+    for (int call = 1; call < 512; call += 3) {
+      reads.feed(0x6c6f7564, 0x20312b31, 0x2b312b31, 0x2b312b31, 0x2b312b31);
+      reads.text();
+      s.be("a fault as at the first, call " + call, reads.fault(1), 20);
+    }
+  }
+
+  private static void noneIsMinus1() {
+    Sentence s = Sentence.of("The constants", "`NONE = -1`: None.");
+    s.be("NONE", SilentHouse.NONE, -1);
   }
 
   private static void seats0To15() {

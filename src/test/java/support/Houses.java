@@ -19,7 +19,7 @@ final class Houses {
     house.seat(1, 1);
     house.seed(5);
     house.night();
-    house.seen(7);
+    house.seen(4);
     house.image();
     house.hire(1, true);
     house.night();

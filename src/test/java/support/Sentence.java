@@ -24,7 +24,7 @@ final class Sentence {
     return new Sentence("Promise " + promise, words);
   }
 
-  /** A sentence of "Terms", of "II." or of "III.". */
+  /** A sentence of "What it is", of "Terms", of "II.", of "III." or of "The constants". */
   static Sentence of(String place, String words) {
     return new Sentence(place, words);
   }
@@ -71,9 +71,11 @@ final class Sentence {
   private static String section(String place) {
     String document = document();
     switch (place) {
+      case "What it is": return between(document, "## What it is ", "## The public face");
       case "Terms": return between(document, "## Terms ", "==== II.");
       case "II.": return between(document, "==== II. ", "==== III.");
       case "III.": return between(document, "==== III. ", "The constants: ");
+      case "The constants": return between(document, "The constants: ", "## Promise 1: ");
       default: return between(document + "## ", "`: ", "## ", "## " + place + ": ");
     }
   }

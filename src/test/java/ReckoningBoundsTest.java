@@ -384,6 +384,17 @@ public final class ReckoningBoundsTest {
       s.be("no more than " + bills[i], left <= bills[i], true);
     }
     s.be("a line without a sound stays", house.cut(0), 1022);
+    SilentHouse fewer = new SilentHouse();
+    Houses.law(fewer, "loud power;");
+    fewer.line(0, 1);
+    fewer.line(0, 1);
+    fewer.image();
+    fewer.line(0, 9);
+    s.be("three lines", fewer.cut(0), 7);
+    s.be("the loudest of three", fewer.cut(2), 4);
+    fewer.back();
+    s.be("two lines again", fewer.cut(0), 3);
+    s.be("one of two", fewer.cut(1), 1);
     s.be("nothing is cut from the play", house.about(1), 10);
   }
 
